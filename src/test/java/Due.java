@@ -54,13 +54,10 @@ final class Due {
         return x;
     }
 
-    /** All that calls can tell of an object, in one text: what must be alike where nothing may have changed. */
-    static String all(TideDebts x) {
+    /** All that calls can tell of a BAY, in one text: what must be alike where it may not have changed. */
+    static String bayOf(TideDebts x) {
         StringBuilder s = new StringBuilder();
-        for (int c = 0; c <= 6; c++) {
-            s.append(x.count(c)).append(' ');
-        }
-        s.append(x.fault()).append('|');
+        s.append(x.count(1)).append(" waters, HOUR ").append(x.count(2)).append('|');
         for (int w = 0; w < x.count(1); w++) {
             s.append(x.kind(w)).append(':');
             for (int what = 0; what < 4; what++) {
@@ -71,6 +68,16 @@ final class Due {
             }
             s.append(x.ahead(w, 7, 0)).append('|');
         }
+        return s.toString();
+    }
+
+    /** The same of the whole object, but for its ROWS' ITEMS, IMAGES and status. */
+    static String all(TideDebts x) {
+        StringBuilder s = new StringBuilder(bayOf(x));
+        for (int c = 0; c <= 6; c++) {
+            s.append(x.count(c)).append(' ');
+        }
+        s.append(x.fault()).append('|');
         for (int i = 0; i < 16; i++) {
             s.append(x.trace(i)).append(' ');
         }
