@@ -235,6 +235,12 @@ public final class ActsTest {
         Due.is("moved", 15, x.settle());
         state(x, "as before all loans", 30, 0, 30, 0, 30, 0, 30, 0);
         Due.is("no debts", 0, x.count(5));
+        for (int from = 0; from < 4; from++) {
+            for (int to = 0; to < 4; to++) {
+                Due.is("nobody owes another one", from == to ? BAD : 0, x.owes(from, to));
+            }
+            Due.is("no balance", 0, x.water(from, 3));
+        }
         Due.is("acts", 6, x.count(4));
         x.lend(0, 1, 20);
         x.lend(2, 1, 5);

@@ -28,6 +28,8 @@ public final class AsksTest {
         Due.is("kind of -1", BAD, x.kind(-1));
         Due.is("as 6", BAD, x.as(0, 6));
         Due.is("as -1", BAD, x.as(0, -1));
+        Due.is("as 7", BAD, x.as(0, 7));
+        Due.is("as the largest", BAD, x.as(0, Integer.MAX_VALUE));
         Due.is("5 as", BAD, x.as(5, 0));
         Due.is("-1 as", BAD, x.as(-1, 0));
     }

@@ -334,6 +334,8 @@ public final class ForetoldTest {
         x.hours(5);
         x.lend(0, 2, 3);
         x.restore(0);
+        Due.is("no act of the bay that was there", 0, x.count(4));
+        Due.is("none of it is undone", STATE, x.undo());
         Due.is("an image is not changed by what comes behind it", 2, x.count(2));
         Due.is("its debt", 24, x.owes(1, 0));
         Due.is("its sill", 4, x.water(1, 2));
@@ -355,6 +357,8 @@ public final class ForetoldTest {
         Due.is("2", BAD, x.image(2));
         Due.is("-1", BAD, x.image(-1));
         Due.is("restore -1", BAD, x.restore(-1));
+        Due.is("3", BAD, x.image(3));
+        Due.is("restore 3", BAD, x.restore(3));
         x.image(1);
         Due.is("the other is not kept", STATE, x.restore(0));
         Due.is("this one is", 1, x.restore(1));

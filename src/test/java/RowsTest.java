@@ -23,6 +23,9 @@ public final class RowsTest {
         Due.is("row -1", BAD, x.row(-1, 0, 1));
         Due.is("lane 3", BAD, x.row(1, 3, 1));
         Due.is("lane -1", BAD, x.row(1, -1, 1));
+        Due.is("lane 4", BAD, x.row(1, 4, 1));
+        Due.is("largest lane", BAD, x.row(1, Integer.MAX_VALUE, 1));
+        Due.is("largest row", BAD, x.row(Integer.MAX_VALUE, 0, 1));
         Due.is("41 items", BAD, x.row(1, 0, 41));
         Due.is("largest n", BAD, x.row(1, 0, Integer.MAX_VALUE));
         Due.is("fewer than none", SIZE, x.row(1, 0, -1));

@@ -109,6 +109,13 @@ public final class TextsTest {
         fault("tide  \n", 7, 1);
         fault("tides 1;", 0, 1);
         fault("tid", 0, 1);
+        fault("aide 1", 0, 1);
+        fault("tidez 1", 0, 1);
+        fault("tidea 1", 0, 1);
+        fault("tide`", 4, 1);
+        fault("tide{", 4, 1);
+        fault("tide /", 5, 1);
+        fault("tide :", 5, 1);
         fault("Tide", 0, 1);
         fault(";", 0, 1);
         fault("12", 0, 1);
@@ -132,6 +139,12 @@ public final class TextsTest {
         fault(t + "water water", e + 6, 1);
         fault(t + "water cover 1 1;", e + 6, 1);
         fault(t + "water 1 1;", e + 6, 1);
+        fault(t + "later cove 1 1;", e, 1);
+        fault(t + "water love 1 1;", e + 6, 1);
+        fault(t + "water fool 1 1;", e + 6, 1);
+        fault(t + "water bell 1 1;", e + 6, 1);
+        fault(t + "water hyke 1 1;", e + 6, 1);
+        fault(t + "water bagoon 1 1;", e + 6, 1);
         fault(t + "water cove", e + 10, 1);
         fault(t + "water cove ;", e + 11, 1);
         fault(t + "water cove 201 41;", e + 11, 2);
