@@ -263,28 +263,28 @@ public final class ActsTest {
     private static void undoes() {
         TideDebts x = Due.made(Due.NEAP + "water cove 30 0;water lagoon 10 0;water well 3 0;");
         String[] was = new String[8];
-        was[0] = Due.all(x);
+        was[0] = Due.bayOf(x);
         x.lend(0, 1, 20);
-        was[1] = Due.all(x);
+        was[1] = Due.bayOf(x);
         x.hours(1);
-        was[2] = Due.all(x);
+        was[2] = Due.bayOf(x);
         x.storm(77);
-        was[3] = Due.all(x);
+        was[3] = Due.bayOf(x);
         x.pay(1, 0, 3);
-        was[4] = Due.all(x);
+        was[4] = Due.bayOf(x);
         x.settle();
-        was[5] = Due.all(x);
+        was[5] = Due.bayOf(x);
         x.hours(2);
         for (int i = 6; i >= 0; i--) {
             Due.is("undo", i, x.undo());
             if (i <= 5) {
-                Due.same("as it was ahead of act " + i, was[i], Due.all(x));
+                Due.same("as it was ahead of act " + i, was[i], Due.bayOf(x));
             }
         }
         Due.is("none", STATE, x.undo());
         x.hours(1);
         Due.is("an act behind an undone one", 0, x.undo());
-        Due.same("as at first", was[0], Due.all(x));
+        Due.same("as at first", was[0], Due.bayOf(x));
     }
 
     private static void forgetsTheOldest() {

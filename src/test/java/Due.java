@@ -1,4 +1,6 @@
 import java.nio.charset.StandardCharsets;
+import java.util.Set;
+import java.util.TreeSet;
 
 /** What the tests share: comparing an answer with the one that is due, and feeding texts. */
 final class Due {
@@ -11,6 +13,9 @@ final class Due {
 
     private static int wrong = 0;
     private static int asked = 0;
+    /** Which sentence of the document is tested; ahead of the first one, none. */
+    private static String sentence = "";
+    private static final Set<String> TESTED = new TreeSet<>();
 
     private Due() {
     }
@@ -19,8 +24,18 @@ final class Due {
         asked++;
         if (got != want) {
             wrong++;
-            System.out.println(what + " answered " + got + ", due is " + want);
+            System.out.println(sentence + what + " answered " + got + ", due is " + want);
         }
+    }
+
+    /** From now on this sentence of the document is tested, told by the heading that it stands under. */
+    static void sentence(String heading, String words) {
+        sentence = "[" + heading + ": " + words + "] ";
+        TESTED.add(heading);
+    }
+
+    static boolean wasTested(String heading) {
+        return TESTED.contains(heading);
     }
 
     static void end() {
@@ -57,13 +72,14 @@ final class Due {
     /** All that calls can tell of a BAY, in one text: what must be alike where it may not have changed. */
     static String bayOf(TideDebts x) {
         StringBuilder s = new StringBuilder();
-        s.append(x.count(1)).append(" waters, HOUR ").append(x.count(2)).append('|');
-        for (int w = 0; w < x.count(1); w++) {
+        int waters = x.count(1);
+        s.append(waters).append(" waters, HOUR ").append(x.count(2)).append('|');
+        for (int w = 0; w < waters; w++) {
             s.append(x.kind(w)).append(':');
             for (int what = 0; what < 4; what++) {
                 s.append(x.water(w, what)).append(' ');
             }
-            for (int to = 0; to < x.count(1); to++) {
+            for (int to = 0; to < waters; to++) {
                 s.append(x.owes(w, to)).append(' ');
             }
             s.append(x.ahead(w, 7, 0)).append('|');
@@ -88,7 +104,7 @@ final class Due {
         asked++;
         if (!want.equals(got)) {
             wrong++;
-            System.out.println(what + ": was " + want + ", is " + got);
+            System.out.println(sentence + what + ": was " + want + ", is " + got);
         }
     }
 }

@@ -20,31 +20,30 @@ public final class ForetoldTest {
         Due.end();
     }
 
-    private static void tellsAhead() {
+    private static TideDebts owing() {
         TideDebts x = Due.made(Due.NEAP + "water cove 9 0;water dyke 50 0;water well 0 0;");
         x.lend(1, 0, 20);
         x.lend(1, 2, 10);
         x.lend(0, 2, 5);
         x.storm(3);
-        String was = Due.all(x);
-        TideDebts y = Due.made(Due.NEAP + "water cove 9 0;water dyke 50 0;water well 0 0;");
-        y.lend(1, 0, 20);
-        y.lend(1, 2, 10);
-        y.lend(0, 2, 5);
-        y.storm(3);
-        for (int n = 0; n <= 48; n++) {
-            for (int w = 0; w < 3; w++) {
+        return x;
+    }
+
+    private static void tellsAhead() {
+        for (int w = 0; w < 3; w++) {
+            TideDebts x = owing();
+            TideDebts y = owing();
+            String was = Due.all(x);
+            for (int n = 0; n <= 48; n++) {
                 Due.is("depth of " + w + " ahead by " + n, y.water(w, 0), x.ahead(w, n, 0));
                 Due.is("arrears of " + w + " ahead by " + n, y.water(w, 1), x.ahead(w, n, 1));
-                int owed = 0;
-                for (int to = 0; to < 3; to++) {
-                    owed += to == w ? 0 : y.owes(w, to);
-                }
+                int owed = y.owes(w, (w + 1) % 3) + y.owes(w, (w + 2) % 3);
                 Due.is("debts of " + w + " ahead by " + n, owed, x.ahead(w, n, 2));
+                y.hours(1);
             }
-            y.hours(1);
+            Due.same("nothing changes", was, Due.all(x));
         }
-        Due.same("nothing changes", was, Due.all(x));
+        TideDebts x = owing();
         Due.is("two debts of the well, a tenth more each", 11 + 5, x.ahead(2, 1, 2));
         Due.is("-1", BAD, x.ahead(0, -1, 0));
         Due.is("49", BAD, x.ahead(0, 49, 0));
