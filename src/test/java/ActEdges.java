@@ -8,59 +8,37 @@ final class ActEdges {
     }
 
     static void all() {
-        ofHours();
-        ofDebts();
-        ofActs();
-        ofPromises();
-        ofCounts();
+        Due.each(
+            ActEdges::ofHours, ActEdges::ofDebts, ActEdges::ofActs, ActEdges::ofPromises, ActEdges::ofCounts);
     }
 
     private static void ofHours() {
-        theRiseWrapsAround();
-        aLagoonGetsHalfCut();
-        aPoolAtItsSill();
-        aWellInHour0();
-        aDykeGetsNothing();
-        whatItGetsGoesAgainstArrears();
-        whatIsNotThereIsArrears();
+        Due.each(
+            ActEdges::theRiseWrapsAround, ActEdges::aLagoonGetsHalfCut, ActEdges::aPoolAtItsSill,
+            ActEdges::aWellInHour0, ActEdges::aDykeGetsNothing, ActEdges::whatItGetsGoesAgainstArrears,
+            ActEdges::whatIsNotThereIsArrears);
     }
 
     private static void ofDebts() {
-        neapIsWithinOne();
-        aTenthIsCut();
-        aDebtIs9999AtMost();
+        Due.each(
+            ActEdges::neapIsWithinOne, ActEdges::aTenthIsCut, ActEdges::aDebtIs9999AtMost);
     }
 
     private static void ofActs() {
-        twentyFourActsAreKept();
-        ofMoreTheOldestIsForgotten();
-        theLatestIsUndoneFirst();
-        anHourIsAnAct();
-        aLoanMovesDepth();
-        aStormDrawsBeyondAnInt();
-        aNetOfARingMovesNothing();
+        Due.each(
+            ActEdges::twentyFourActsAreKept, ActEdges::ofMoreTheOldestIsForgotten, ActEdges::theLatestIsUndoneFirst,
+            ActEdges::anHourIsAnAct, ActEdges::aLoanMovesDepth, ActEdges::aStormDrawsBeyondAnInt,
+            ActEdges::aNetOfARingMovesNothing);
     }
 
     private static void ofPromises() {
-        hoursAre1To24();
-        hoursWithoutABay();
-        hoursBeyond999();
-        lendAlike();
-        lendOfTooFewOrTooMany();
-        lendOfMoreThanThereIs();
-        lendAboveTheMostDebt();
-        payAlike();
-        payOfTooFewOrTooMany();
-        payOfMoreThanIsOwed();
-        payOfMoreThanThereIs();
-        stormOfSeeds();
-        stormWithoutABay();
-        settleWithoutABay();
-        settleThatCannotBe();
-        undoOfNone();
-        undoTellsHowMany();
-        waterOfNoSuchThing();
-        owesAlike();
+        Due.each(
+            ActEdges::hoursAre1To24, ActEdges::hoursWithoutABay, ActEdges::hoursBeyond999, ActEdges::lendAlike,
+            ActEdges::lendOfTooFewOrTooMany, ActEdges::lendOfMoreThanThereIs, ActEdges::lendAboveTheMostDebt,
+            ActEdges::payAlike, ActEdges::payOfTooFewOrTooMany, ActEdges::payOfMoreThanIsOwed,
+            ActEdges::payOfMoreThanThereIs, ActEdges::stormOfSeeds, ActEdges::stormWithoutABay,
+            ActEdges::settleWithoutABay, ActEdges::settleThatCannotBe, ActEdges::undoOfNone,
+            ActEdges::undoTellsHowMany, ActEdges::waterOfNoSuchThing, ActEdges::owesAlike);
     }
 
     private static void state(TideDebts x, String when, int... depthsAndArrears) {
@@ -321,6 +299,20 @@ final class ActEdges {
         Due.is("no debt: moved", 0, y.settle());
         Due.is("no debt: an act all the same", 1, y.count(4));
         Due.is("no water: moved", 0, Due.made(Due.NEAP).settle());
+        TideDebts z = Due.made(Due.NEAP + DYKES + DYKES);
+        for (int to = 1; to < 6; to++) {
+            z.lend(0, to, to);
+        }
+        z.lend(5, 4, 5);
+        Due.is("six waters: moved", 15, z.settle());
+        Due.is("nothing more is moved", 0, z.settle());
+        state(z, "settled", 50, 0, 50, 0, 50, 0, 50, 0, 50, 0, 50, 0);
+        for (int from = 0; from < 6; from++) {
+            Due.is("balance of " + from, 0, z.water(from, 3));
+            for (int to = 0; to < 6; to++) {
+                Due.is(from + " owes " + to, from == to ? BAD : 0, z.owes(from, to));
+            }
+        }
     }
 
     private static void hoursAre1To24() {

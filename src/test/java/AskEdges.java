@@ -10,17 +10,11 @@ final class AskEdges {
     }
 
     static void all() {
-        kindsAre1To5();
-        kindOfNoSuchWater();
-        eachIsOfItsKinds();
-        asOfNoSuchThing();
-        asOfAnotherKind();
-        theNearestKindAnswers();
-        asksOfNothing();
-        askOfNoSuchThing();
-        theTraceIsEmptyAhead();
-        theTraceAtFirst();
-        theTraceEnds();
+        Due.each(
+            AskEdges::kindsAre1To5, AskEdges::kindOfNoSuchWater, AskEdges::eachIsOfItsKinds,
+            AskEdges::asOfNoSuchThing, AskEdges::asOfAnotherKind, AskEdges::theNearestKindAnswers, AskEdges::theTraceHas16AtMost,
+            AskEdges::asksOfNothing, AskEdges::askOfNoSuchThing, AskEdges::theTraceIsEmptyAhead,
+            AskEdges::theTraceAtFirst, AskEdges::theTraceEnds);
     }
 
     private static void kindsAre1To5() {
@@ -117,6 +111,28 @@ final class AskEdges {
         Due.is("MARK of a well that has 150", -96, x.ask(4, 1));
         x.hours(1);
         Due.is("SIZE of a cove behind an ebb", 55, x.ask(5, 0));
+    }
+
+    private static void theTraceHas16AtMost() {
+        Due.sentence("4 ASKS", "each of which leaves its number in THE TRACE as it begins (the first 16)");
+        TideDebts x = Due.made(Due.NEAP + FIVE);
+        for (int w = 0; w < 5; w++) {
+            for (int what = 0; what < 2; what++) {
+                x.ask(w, what);
+                int left = 0;
+                while (left < 17 && x.trace(left) != NONE) {
+                    Due.is("body " + left + " is one of both asks", 1, isBody(x.trace(left)) ? 1 : 0);
+                    left++;
+                }
+                Due.is("some, and not so many", 1, left >= 2 && left <= 6 ? 1 : 0);
+                Due.is("trace 15", NONE, x.trace(15));
+                Due.is("trace 16", NONE, x.trace(16));
+            }
+        }
+    }
+
+    private static boolean isBody(int number) {
+        return number >= 10 && number <= 14 || number >= 20 && number <= 24;
     }
 
     private static void askOfNoSuchThing() {

@@ -6,7 +6,7 @@ public final class EdgesTest {
         ActEdges.all();
         ForetoldEdges.all();
         AskEdges.all();
-        RefusalEdges.all();
+        TermEdges.all();
         everyPromiseHasItsSentences();
         Due.end();
     }

@@ -10,72 +10,54 @@ final class ForetoldEdges {
     }
 
     static void all() {
-        ofAhead();
-        ofSail();
-        ofNet();
-        ofLeast();
-        ofRun();
-        ofFrauds();
-        ofImages();
+        Due.each(
+            ForetoldEdges::ofAhead, ForetoldEdges::ofSail, ForetoldEdges::ofNet, ForetoldEdges::ofLeast,
+            ForetoldEdges::ofRun, ForetoldEdges::ofFrauds, ForetoldEdges::ofImages);
     }
 
     private static void ofAhead() {
-        aheadBy0To48();
-        aheadBeyondHour999();
-        aheadOfEachDebt();
-        aheadOfNoSuchThing();
+        Due.each(
+            ForetoldEdges::aheadBy0To48, ForetoldEdges::aheadBeyondHour999, ForetoldEdges::aheadOfEachDebt,
+            ForetoldEdges::aheadOfNoSuchThing);
     }
 
     private static void ofSail() {
-        sailNow();
-        sailOutBy24AtMost();
-        sailHomeByMOrMore();
-        sailHomeBy48AtMost();
-        sailOfDraughts();
-        sailNever();
-        sailOfNoSuchThing();
+        Due.each(
+            ForetoldEdges::sailNow, ForetoldEdges::sailOutBy24AtMost, ForetoldEdges::sailHomeByMOrMore,
+            ForetoldEdges::sailHomeBy48AtMost, ForetoldEdges::sailOfDraughts, ForetoldEdges::sailNever,
+            ForetoldEdges::sailOfNoSuchThing);
     }
 
     private static void ofNet() {
-        netOfNoBalance();
-        netOfTheFirstOnes();
-        netOfTheLesser();
-        netCanBe();
-        netOfNotSoMany();
-        netOfNoSuchThing();
-        netWithoutABay();
+        Due.each(
+            ForetoldEdges::netOfNoBalance, ForetoldEdges::netOfTheFirstOnes, ForetoldEdges::netOfTheLesser,
+            ForetoldEdges::netCanBe, ForetoldEdges::netOfNotSoMany, ForetoldEdges::netOfNoSuchThing,
+            ForetoldEdges::netWithoutABay);
     }
 
     private static void ofLeast() {
-        leastOf0ToAll();
-        leastOfDepths();
-        leastBehindHours();
-        leastAlike();
+        Due.each(
+            ForetoldEdges::leastOf0ToAll, ForetoldEdges::leastOfDepths, ForetoldEdges::leastBehindHours,
+            ForetoldEdges::leastAlike);
     }
 
     private static void ofRun() {
-        runInOrder();
-        runAsFarAsItGoes();
-        runOfSix();
-        runWithoutABay();
+        Due.each(
+            ForetoldEdges::runInOrder, ForetoldEdges::runAsFarAsItGoes, ForetoldEdges::runOfSix,
+            ForetoldEdges::runWithoutABay);
     }
 
     private static void ofFrauds() {
-        fraudsBehindTheNextHour();
-        fraudsOfSix();
-        fraudsOfAsManyItems();
-        fraudsOfNoSuchRow();
-        fraudsWithoutABay();
-        fraudsOfMissingRow();
-        fraudsOfAnItemBelow0();
+        Due.each(
+            ForetoldEdges::fraudsBehindTheNextHour, ForetoldEdges::fraudsOfSix, ForetoldEdges::fraudsOfAsManyItems,
+            ForetoldEdges::fraudsOfNoSuchRow, ForetoldEdges::fraudsWithoutABay, ForetoldEdges::fraudsOfMissingRow,
+            ForetoldEdges::fraudsOfAnItemBelow0);
     }
 
     private static void ofImages() {
-        imagesAreTwo();
-        imageWithoutABay();
-        restoreOfNone();
-        restoreLeavesNoAct();
-        anImageIsOfItsOwn();
+        Due.each(
+            ForetoldEdges::imagesAreTwo, ForetoldEdges::imageWithoutABay, ForetoldEdges::restoreOfNone,
+            ForetoldEdges::restoreLeavesNoAct, ForetoldEdges::anImageIsOfItsOwn);
     }
 
     private static void aheadBy0To48() {
@@ -328,6 +310,13 @@ final class ForetoldEdges {
             Due.is("a gift all the same", 1, x.net(-1, 0));
         }
         Due.is("a bay without waters", 1, Due.made(Due.NEAP).net(-2, 0));
+        for (int debtor = 0; debtor < 6; debtor++) {
+            TideDebts y = Due.made(Due.SPRING + "water cove 9 0;".repeat(6));
+            y.lend((debtor + 1) % 6, debtor, 1);
+            Due.is("10 for 1", 1, y.net(-2, 0));
+            y.hours(1);
+            Due.is("0 for 1", 0, y.net(-2, 0));
+        }
     }
 
     private static void netOfNotSoMany() {
@@ -435,11 +424,11 @@ final class ForetoldEdges {
 
     private static void runInOrder() {
         Due.sentence("3 FORETOLD", "each, in order, pays what it owes to others, in order");
-        // 0 owes 1, 1 owes 2, 2 owes 3, all that they had: each is paid ahead of its turn
-        TideDebts x = Due.made(Due.SPRING + "water dyke 10 0;water dyke 10 0;water dyke 10 0;water dyke 10 0;");
-        x.lend(1, 0, 10);
-        x.lend(2, 1, 10);
+        // 0 has 10 and owes 1 ten, which owes 2 ten, which owes 3 ten: each is paid ahead of its turn
+        TideDebts x = Due.made(Due.SPRING + "water dyke 0 0;water dyke 0 0;water dyke 0 0;water dyke 10 0;");
         x.lend(3, 2, 10);
+        x.lend(2, 1, 10);
+        x.lend(1, 0, 10);
         Due.is("paid in time", 0, x.run());
         // 3 owes 2, 2 owes 1, 1 owes 0, and 1 and 2 have nothing
         TideDebts y = Due.made(Due.SPRING + "water dyke 10 0;water dyke 0 0;water dyke 0 0;water dyke 0 0;");
@@ -447,17 +436,14 @@ final class ForetoldEdges {
         y.lend(1, 2, 10);
         y.lend(2, 3, 10);
         Due.is("paid too late", 6, y.run());
-        // 0 has 4 for the 6 it owes 1 and the 6 it owes 2: 1 gets 4 and needs them
-        TideDebts z = Due.made(Due.SPRING + "water dyke 4 0;water dyke 10 0;water dyke 10 0;water dyke 12 0;");
+        // 0 has 4 for the 6 that it owes 1 and the 6 that it owes 2; both need 4 for what they owe 3
+        TideDebts z = Due.made(Due.SPRING + "water dyke 0 0;water dyke 2 0;water dyke 2 0;water dyke 50 0;");
+        z.lend(3, 1, 4);
+        z.lend(3, 2, 4);
         z.lend(1, 0, 6);
         z.lend(2, 0, 6);
-        z.lend(0, 3, 12);
-        z.lend(3, 1, 10);
-        z.lend(1, 3, 10);
-        z.lend(1, 2, 4);
-        Due.is("depth of 1", 0, z.water(1, 0));
-        // 1 owes 3 ten and gets 4; 2 owes 1 four and has 8; 3 owes 0 twelve and 1 ten and has 24 and 4
-        Due.is("the others in order", 3, z.run());
+        z.lend(0, 3, 8);
+        Due.is("the first of the others gets it", 5, z.run());
     }
 
     private static void runAsFarAsItGoes() {
@@ -537,7 +523,7 @@ final class ForetoldEdges {
     }
 
     private static void fraudsOfAsManyItems() {
-        Due.sentence("Promise 22", "as many ITEMS as there are WATERS, of a ROW from i on .. PLACE");
+        Due.sentence("Promise 22", "as many ITEMS as there are WATERS, of a ROW from i on");
         TideDebts x = Due.made(Due.SPRING + "water dyke 0 0;".repeat(3));
         x.row(0, 0, 3);
         Due.is("3 of 3", 0, x.frauds(0, 0));

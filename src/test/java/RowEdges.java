@@ -9,35 +9,17 @@ final class RowEdges {
     }
 
     static void all() {
-        rowsAreMissingAtFirst();
-        thereAreEightRows();
-        thereAreThreeLanes();
-        aRowHasUpTo40Items();
-        itemsAreNoneAtFirst();
-        aRowComesInPlaceOfAnother();
-        rowOfNoSuchNumber();
-        rowOfNoSuchLane();
-        rowOfTooManyItems();
-        rowOfFewerItemsThanNone();
-        setKeepsLowestBits();
-        setOfNoSuchRow();
-        setOfMissingRow();
-        setOfNoSuchPlace();
-        copyAsTheyWereAhead();
-        copyOfNoItems();
-        copyOfNoSuchRows();
-        copyOfMissingRows();
-        copyOfTwoLanes();
-        copyOfPlacesBelow0();
-        copyBeyondAnEnd();
-        dropTellsHowMany();
-        dropOfNoSuchRow();
-        dropOfMissingRow();
-        statusAtFirst();
-        statusOfEachFinding();
-        statusOfACallWithoutFinding();
-        statusPassesByRefusals();
-        statusPassesByOtherCalls();
+        Due.each(
+            RowEdges::rowsAreMissingAtFirst, RowEdges::thereAreEightRows, RowEdges::thereAreThreeLanes,
+            RowEdges::aRowHasUpTo40Items, RowEdges::itemsAreNoneAtFirst, RowEdges::aRowComesInPlaceOfAnother,
+            RowEdges::rowOfNoSuchNumber, RowEdges::rowOfNoSuchLane, RowEdges::rowOfTooManyItems,
+            RowEdges::rowOfFewerItemsThanNone, RowEdges::setKeepsLowestBits, RowEdges::setOfNoSuchRow,
+            RowEdges::setOfMissingRow, RowEdges::setOfNoSuchPlace, RowEdges::copyAsTheyWereAhead,
+            RowEdges::copyOfNoItems, RowEdges::copyOfNoSuchRows, RowEdges::copyOfMissingRows,
+            RowEdges::copyOfTwoLanes, RowEdges::copyOfPlacesBelow0, RowEdges::copyBeyondAnEnd,
+            RowEdges::dropTellsHowMany, RowEdges::dropOfNoSuchRow, RowEdges::dropOfMissingRow,
+            RowEdges::statusAtFirst, RowEdges::statusOfEachFinding, RowEdges::statusOfACallWithoutFinding,
+            RowEdges::statusPassesByRefusals, RowEdges::statusPassesByOtherCalls);
     }
 
     /** Whether the ITEMS from i on are these (0 to 200, six at most): told to a BAY of dykes, whose DEPTH stays. */
@@ -151,7 +133,7 @@ final class RowEdges {
     }
 
     private static void rowOfNoSuchLane() {
-        Due.sentence("Promise 2", "BAD: .. LANE");
+        Due.sentence("Promise 2", "BAD: ROW, LANE");
         TideDebts x = new TideDebts();
         for (int lane : new int[] {-1, 3, LEAST, MOST}) {
             Due.is("lane " + lane, BAD, x.row(0, lane, 1));
@@ -161,7 +143,7 @@ final class RowEdges {
     }
 
     private static void rowOfTooManyItems() {
-        Due.sentence("Promise 2", "BAD: .. n above 40");
+        Due.sentence("Promise 2", "n above 40");
         TideDebts x = new TideDebts();
         Due.is("40", 40, x.row(1, 0, 40));
         Due.is("41", BAD, x.row(0, 0, 41));

@@ -9,35 +9,17 @@ final class TextEdges {
     }
 
     static void all() {
-        noBay();
-        theTapeHas400Bytes();
-        theHighestByteComesFirst();
-        feedOfTooFewOrTooManyBytes();
-        aFullTapeTakesNone();
-        namesAreLettersAToZ();
-        numbersHaveThreeFiguresAtMost();
-        figuresAre0To9();
-        signsAndBlanks();
-        theTideHas12Numbers();
-        levelsAre0To40();
-        theTideGoesRoundAndRound();
-        sortsAreFive();
-        depthsAre0To200();
-        sillsAre0To40();
-        thereAreSixWatersAtMost();
-        aBayStandsInPlaceOfTheOneBefore();
-        theFirstTokenThatHasAFault();
-        ofOneTokenTheLeast();
-        itCannotStandThere();
-        itIsNone();
-        theEnd();
-        aNumberThatIsNotAsTold();
-        aWaterTooMany();
-        theTapeIsEmptyThen();
-        aFaultKeepsAll();
-        placesOfFaults();
-        faultBeforeOne();
-        latestFault();
+        Due.each(
+            TextEdges::noBay, TextEdges::theTapeHas400Bytes, TextEdges::theHighestByteComesFirst,
+            TextEdges::feedOfTooFewOrTooManyBytes, TextEdges::aFullTapeTakesNone, TextEdges::namesAreLettersAToZ,
+            TextEdges::numbersHaveThreeFiguresAtMost, TextEdges::figuresAre0To9, TextEdges::signsAndBlanks,
+            TextEdges::theTideHas12Numbers, TextEdges::levelsAre0To40, TextEdges::theTideGoesRoundAndRound,
+            TextEdges::sortsAreFive, TextEdges::depthsAre0To200, TextEdges::sillsAre0To40,
+            TextEdges::thereAreSixWatersAtMost, TextEdges::aBayStandsInPlaceOfTheOneBefore,
+            TextEdges::theFirstTokenThatHasAFault, TextEdges::ofOneTokenTheLeast, TextEdges::itCannotStandThere,
+            TextEdges::itIsNone, TextEdges::theEnd, TextEdges::aNumberThatIsNotAsTold, TextEdges::aWaterTooMany,
+            TextEdges::theTapeIsEmptyThen, TextEdges::aFaultKeepsAll, TextEdges::placesOfFaults,
+            TextEdges::faultBeforeOne, TextEdges::latestFault);
     }
 
     private static void fault(String text, int place, int number) {
@@ -94,6 +76,11 @@ final class TextEdges {
         String text = T + "water cove 7 0;";
         reads(" ".repeat(400 - text.length()) + text, 1);
         reads(text + "\n".repeat(400 - text.length()), 1);
+        fault("a".repeat(400), 0, 1);
+        fault("tide " + "1".repeat(395), 5, 1);
+        fault(" ".repeat(395) + "tide;", 399, 1);
+        fault(" ".repeat(394) + "tide 1", 400, 1);
+        fault(" ".repeat(396) + "tide", 400, 1);
     }
 
     private static void theHighestByteComesFirst() {
@@ -407,6 +394,14 @@ final class TextEdges {
         Due.is("bytes behind a fault", 0, x.count(6));
         Due.is("nothing of it is read again", 2, Due.bay(x, T + "water cove 1 1;water cove 1 1;"));
         Due.is("bytes", 8, x.feed(0, 8));
+        Due.bay(x, "1".repeat(392));
+        Due.is("no figure of it stands behind a number", -1000106, Due.bay(x, "tide 1"));
+        Due.bay(x, "e".repeat(400));
+        Due.is("no letter of it stands behind a name", -1000103, Due.bay(x, "  \n"));
+        Due.bay(x, "e".repeat(400));
+        Due.is("no letter of it stands behind a name", -1000104, Due.bay(x, "tide"));
+        Due.bay(x, ";".repeat(400));
+        Due.is("no sign of it stands at the end", -1000100 - E + 1, Due.bay(x, T.substring(0, E - 1)));
     }
 
     private static void aFaultKeepsAll() {

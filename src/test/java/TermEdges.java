@@ -1,27 +1,23 @@
 /**
- * "What is refused, or found, changes nothing but status()", for each refusal of each call: an object on which the call
- * was made, and one like it on which it was not, must answer alike to whatever tells of them.
+ * The sentences of "Terms" that name an edge. "What is refused, or found, changes nothing but status()", for each
+ * refusal of each call: an object on which the call was made, and one like it on which it was not, must answer alike to
+ * whatever tells of them.
  */
-final class RefusalEdges {
+final class TermEdges {
     private static final int NONE = TideDebts.NONE, BAD = TideDebts.BAD, STATE = TideDebts.STATE, FULL = TideDebts.FULL;
     private static final int NULL = -1000011, PLACE = -1000012, KIND = -1000013, SIZE = -1000014, STORE = -1000015;
 
-    private RefusalEdges() {
+    private TermEdges() {
     }
 
     static void all() {
-        refusedRows();
-        refusedCopies();
-        refusedTexts();
-        refusedActs();
-        refusedActsByState();
-        refusedQuestions();
-        refusedForetelling();
-        refusedWithoutABay();
-        refusedAtTheMost();
-        foretelling();
-        asking();
-        theOrderOfRefusals();
+        Due.each(
+            TermEdges::refusedRows, TermEdges::refusedCopies, TermEdges::refusedTexts,
+            TermEdges::refusedActs, TermEdges::refusedActsByState, TermEdges::refusedQuestions,
+            TermEdges::refusedForetelling, TermEdges::refusedWithoutABay, TermEdges::refusedAtTheMost,
+            TermEdges::foretelling, TermEdges::asking, TermEdges::theOrderOfRefusals,
+            TermEdges::theFirstFindingInTime, TermEdges::numbersGoFrom0On, TermEdges::quotientsAreCut,
+            TermEdges::anObjectIsUsedFor512Calls);
     }
 
     private interface Maker {
@@ -136,7 +132,7 @@ final class RefusalEdges {
 
     private static void refusedRows() {
         begin();
-        Maker m = RefusalEdges::lived;
+        Maker m = TermEdges::lived;
         keeps(m, BAD, "row", 8, 0, 2);
         keeps(m, BAD, "row", -1, 0, 2);
         keeps(m, BAD, "row", 0, 3, 2);
@@ -156,7 +152,7 @@ final class RefusalEdges {
 
     private static void refusedCopies() {
         begin();
-        Maker m = RefusalEdges::lived;
+        Maker m = TermEdges::lived;
         keeps(m, BAD, "copy", 8, 0, 0, 0, 1);
         keeps(m, BAD, "copy", 0, 0, 8, 0, 1);
         keeps(m, BAD, "copy", -1, 0, 0, 0, 1);
@@ -174,17 +170,17 @@ final class RefusalEdges {
 
     private static void refusedTexts() {
         begin();
-        keeps(RefusalEdges::lived, BAD, "feed", 0x2020202020202020L, 0);
-        keeps(RefusalEdges::lived, BAD, "feed", 0x2020202020202020L, 9);
-        keeps(RefusalEdges::lived, BAD, "feed", 0x2020202020202020L, -1);
-        keeps(RefusalEdges::withFullTape, FULL, "feed", 0x2121212121212121L, 5);
-        keeps(RefusalEdges::withFullTape, FULL, "feed", 0x2121212121212121L, 8);
-        keeps(RefusalEdges::withFullTape, BAD, "feed", 0x2121212121212121L, 9);
+        keeps(TermEdges::lived, BAD, "feed", 0x2020202020202020L, 0);
+        keeps(TermEdges::lived, BAD, "feed", 0x2020202020202020L, 9);
+        keeps(TermEdges::lived, BAD, "feed", 0x2020202020202020L, -1);
+        keeps(TermEdges::withFullTape, FULL, "feed", 0x2121212121212121L, 5);
+        keeps(TermEdges::withFullTape, FULL, "feed", 0x2121212121212121L, 8);
+        keeps(TermEdges::withFullTape, BAD, "feed", 0x2121212121212121L, 9);
     }
 
     private static void refusedActs() {
         begin();
-        Maker m = RefusalEdges::lived;
+        Maker m = TermEdges::lived;
         keeps(m, BAD, "hours", 0);
         keeps(m, BAD, "hours", 25);
         keeps(m, BAD, "lend", 0, 0, 1);
@@ -205,13 +201,13 @@ final class RefusalEdges {
 
     private static void refusedActsByState() {
         begin();
-        Maker m = RefusalEdges::lived;
+        Maker m = TermEdges::lived;
         keeps(m, STATE, "lend", 0, 1, 999);
         keeps(m, STATE, "pay", 0, 1, 18);
         keeps(m, STATE, "pay", 1, 0, 1);
-        keeps(RefusalEdges::broke, STATE, "settle");
-        keeps(RefusalEdges::broke, STATE, "pay", 0, 1, 17);
-        keeps(RefusalEdges::broke, STATE, "lend", 0, 1, 12);
+        keeps(TermEdges::broke, STATE, "settle");
+        keeps(TermEdges::broke, STATE, "pay", 0, 1, 17);
+        keeps(TermEdges::broke, STATE, "lend", 0, 1, 12);
         keeps(m, STATE, "restore", 1);
         keeps(m, BAD, "restore", 2);
         keeps(m, BAD, "restore", -1);
@@ -221,7 +217,7 @@ final class RefusalEdges {
 
     private static void refusedQuestions() {
         begin();
-        Maker m = RefusalEdges::lived;
+        Maker m = TermEdges::lived;
         keeps(m, BAD, "water", 3, 0);
         keeps(m, BAD, "water", 0, 4);
         keeps(m, BAD, "owes", 0, 0);
@@ -240,7 +236,7 @@ final class RefusalEdges {
 
     private static void refusedForetelling() {
         begin();
-        Maker m = RefusalEdges::lived;
+        Maker m = TermEdges::lived;
         keeps(m, BAD, "ahead", 0, 49, 0);
         keeps(m, BAD, "sail", 0, 1000, 1, 0);
         keeps(m, NONE, "sail", 0, 999, 1, 1);
@@ -251,12 +247,12 @@ final class RefusalEdges {
         keeps(m, BAD, "frauds", 8, 0);
         keeps(m, NULL, "frauds", 4, 0);
         keeps(m, PLACE, "frauds", 0, 1);
-        keeps(RefusalEdges::broke, BAD, "frauds", 3, 0);
+        keeps(TermEdges::broke, BAD, "frauds", 3, 0);
     }
 
     private static void refusedWithoutABay() {
         begin();
-        Maker m = RefusalEdges::fresh;
+        Maker m = TermEdges::fresh;
         keeps(m, STATE, "hours", 1);
         keeps(m, STATE, "storm", 1);
         keeps(m, STATE, "settle");
@@ -273,16 +269,16 @@ final class RefusalEdges {
 
     private static void refusedAtTheMost() {
         begin();
-        keeps(RefusalEdges::atHour999, FULL, "hours", 1);
-        keeps(RefusalEdges::atHour999, FULL, "hours", 24);
-        keeps(RefusalEdges::withTheMostDebt, FULL, "lend", 0, 1, 1);
-        keeps(RefusalEdges::withTheMostDebt, FULL, "lend", 0, 1, 11);
-        keeps(RefusalEdges::withTheMostDebt, STATE, "lend", 0, 1, 12);
+        keeps(TermEdges::atHour999, FULL, "hours", 1);
+        keeps(TermEdges::atHour999, FULL, "hours", 24);
+        keeps(TermEdges::withTheMostDebt, FULL, "lend", 0, 1, 1);
+        keeps(TermEdges::withTheMostDebt, FULL, "lend", 0, 1, 11);
+        keeps(TermEdges::withTheMostDebt, STATE, "lend", 0, 1, 12);
     }
 
     private static void foretelling() {
         Due.sentence("3 FORETOLD", "FORETOLD (nothing changes)");
-        Maker m = RefusalEdges::lived;
+        Maker m = TermEdges::lived;
         keeps(m, lived().ahead(0, 48, 2), "ahead", 0, 48, 2);
         keeps(m, lived().sail(0, 20, 24, 1), "sail", 0, 20, 24, 1);
         keeps(m, 2, "net", -1, 0);
@@ -296,8 +292,8 @@ final class RefusalEdges {
     }
 
     private static void asking() {
-        Due.sentence("Terms", "changes nothing (a call that only tells)");
-        Maker m = RefusalEdges::lived;
+        Due.sentence("Not promised", "Nothing is promised beyond the answers and state changes described above");
+        Maker m = TermEdges::lived;
         keeps(m, 17, "owes", 0, 1);
         keeps(m, 3, "water", 1, 2);
         keeps(m, 1, "kind", 0);
@@ -339,5 +335,64 @@ final class RefusalEdges {
         TideDebts y = broke();
         Due.is("PLACE ahead of BAD, frauds", PLACE, y.frauds(3, 1));
         Due.is("then BAD", BAD, y.frauds(3, 0));
+    }
+
+    private static void theFirstFindingInTime() {
+        Due.sentence("Terms", "FINDINGS, of several the first in time");
+        TideDebts x = lived();
+        Due.is("set: NULL, PLACE", NULL, x.set(4, -1, 0));
+        Due.is("its status", 1, x.status());
+        Due.is("copy: NULL, PLACE", NULL, x.copy(4, -1, 5, -1, -1));
+        Due.is("copy: STORE, PLACE", STORE, x.copy(1, 9, 2, 9, 9));
+        Due.is("its status", 5, x.status());
+        Due.is("frauds: NULL, PLACE", NULL, x.frauds(4, 99));
+        Due.is("its status", 1, x.status());
+    }
+
+    private static void numbersGoFrom0On() {
+        Due.sentence("Terms", "Numbers go from 0 on.");
+        TideDebts x = new TideDebts();
+        Due.is("the first place of a text", -1000100, Due.bay(x, "x"));
+        Due.bay(x, "tide 5 9 0 0 0 0 0 0 0 0 0 0;water cove 1 1;water dyke 2 2;");
+        Due.is("the first HOUR", 4, x.hours(1));
+        Due.is("the first row", 1, x.row(0, 0, 1));
+        Due.is("the first item", 7, x.set(0, 0, 7));
+        Due.is("the first water", 5, x.water(0, 0));
+        Due.is("its number", 0, x.as(0, 0));
+        x.lend(0, 1, 3);
+        Due.is("the first gift, by the second water", 1, x.net(0, 0));
+        Due.is("the first gift, to the first water", 0, x.net(0, 1));
+        x.ask(1, 0);
+        Due.is("the first of the trace", 13, x.trace(0));
+        Due.is("the first image", 1, x.image(0));
+    }
+
+    private static void quotientsAreCut() {
+        Due.sentence("Terms", "All that is divided is cut towards 0.");
+        TideDebts x = Due.made("tide 20 19 16 11 12 15 20 20 20 20 20 20;water lagoon 9 0;water dyke 50 0;");
+        x.lend(1, 0, 19);
+        int[][] due = {{-1, 28, 20}, {-3, 27, 20}, {-5, 25, 20}, {1, 25, 22}, {3, 26, 22}, {5, 28, 22}, {0, 28, 24}};
+        for (int[] d : due) {
+            Due.is("RISE", d[0], x.hours(1));
+            Due.is("depth behind a RISE of " + d[0], d[1], x.water(0, 0));
+            Due.is("debt behind a RISE of " + d[0], d[2], x.owes(0, 1));
+        }
+    }
+
+    private static void anObjectIsUsedFor512Calls() {
+        Due.sentence("What it is", "An object is used for at most 512 calls after it has been made");
+        TideDebts x = new TideDebts();
+        String text = Due.TIDE + Due.FIVE;
+        Due.is("waters", 5, Due.bay(x, text));
+        for (int calls = (text.length() + 7) / 8 + 1; calls < 511; calls++) {
+            boolean right = switch (calls % 4) {
+                case 0 -> x.least(0, 4, 50, 24) == 38;
+                case 1 -> x.sail(0, 42, 15, 1) == 28;
+                case 2 -> x.ahead(2, 48, 0) == 13;
+                default -> x.storm(0) == BAD;
+            };
+            Due.is("call " + calls, 1, right ? 1 : 0);
+        }
+        Due.is("the last one", 6, x.hours(1));
     }
 }
