@@ -1,6 +1,6 @@
 import java.nio.charset.StandardCharsets;
-import java.util.Set;
-import java.util.TreeSet;
+import java.util.ArrayList;
+import java.util.List;
 
 /** What the tests share: comparing an answer with the one that is due, and feeding texts. */
 final class Due {
@@ -15,7 +15,8 @@ final class Due {
     private static int asked = 0;
     /** Which sentence of the document is tested; ahead of the first one, none. */
     private static String sentence = "";
-    private static final Set<String> TESTED = new TreeSet<>();
+    /** Headings and words of all sentences so far. */
+    private static final List<String[]> TESTED = new ArrayList<>();
 
     private Due() {
     }
@@ -31,7 +32,7 @@ final class Due {
     /** From now on this sentence of the document is tested, told by the heading that it stands under. */
     static void sentence(String heading, String words) {
         sentence = "[" + heading + ": " + words + "] ";
-        TESTED.add(heading);
+        TESTED.add(new String[] {heading, words});
     }
 
     /** What a test throws is an answer that is not as due, and the tests behind it are run all the same. */
@@ -46,8 +47,8 @@ final class Due {
         }
     }
 
-    static boolean wasTested(String heading) {
-        return TESTED.contains(heading);
+    static List<String[]> tested() {
+        return TESTED;
     }
 
     static void end() {

@@ -24,7 +24,12 @@ public final class FaceTest {
         methods();
         membersAreHidden();
         classesInside();
+        sizes(TideDebts.class);
+        for (Class<?> c : TideDebts.class.getDeclaredClasses()) {
+            sizes(c);
+        }
         text();
+        methodsAreShort();
         Due.end();
     }
 
@@ -88,6 +93,28 @@ public final class FaceTest {
                     !Modifier.isStatic(f.getModifiers()) || Modifier.isFinal(f.getModifiers()) ? 1 : 0);
             }
         }
+    }
+
+    private static void sizes(Class<?> c) {
+        for (Method m : c.getDeclaredMethods()) {
+            Due.is(c.getName() + "." + m.getName() + " takes seven at most", 1, m.getParameterCount() <= 7 ? 1 : 0);
+        }
+        long fields = Arrays.stream(c.getDeclaredFields()).filter(f -> !Modifier.isStatic(f.getModifiers())).count();
+        Due.is(c.getName() + " has twenty fields at most", 1, fields <= 20 ? 1 : 0);
+    }
+
+    /** A method begins and ends with lines of the same indent: four blanks, or eight within a class inside. */
+    private static void methodsAreShort() throws IOException {
+        String text = Files.readString(Path.of("src/main/java/TideDebts.java"));
+        Matcher method = Pattern.compile("(?ms)^( {4}| {8})(?! |/)[^\n;=]*\\([^\n;]*\\) \\{\n.*?^\\1\\}").matcher(text);
+        int methods = 0;
+        while (method.find()) {
+            methods++;
+            int lines = method.group().split("\n").length;
+            String first = method.group().trim().split("\n")[0];
+            Due.is(first + " has sixty lines at most", 1, lines <= 60 ? 1 : 0);
+        }
+        Due.is("methods were found", 1, methods > 90 ? 1 : 0);
     }
 
     private static void text() throws IOException {
